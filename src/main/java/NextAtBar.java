@@ -85,26 +85,16 @@ public final class NextAtBar {
         int place;
         int patience;
         int look;
-        int shelf;
+        int shelf = NEVER;
         int says;
-        int state;
-        int begun;
-        int has;
+        int state = AWAY;
+        int begun = NEVER;
+        int has = NEVER;
+        // The second in which his waiting ended.
         int until;
-        int server;
+        int server = NEVER;
         int passed;
         int pushed;
-
-        void forget() {
-            shelf = NEVER;
-            state = AWAY;
-            begun = NEVER;
-            has = NEVER;
-            until = 0;
-            server = NEVER;
-            passed = 0;
-            pushed = 0;
-        }
 
         void take(Guest other) {
             manner = other.manner;
@@ -256,7 +246,7 @@ public final class NextAtBar {
             tellings = 0;
             for (int p = 0; p < PEOPLE; p++) {
                 Arrays.fill(glasses[p], 0);
-                guests[p].forget();
+                guests[p].shelf = NEVER;
             }
         }
 
@@ -805,6 +795,7 @@ public final class NextAtBar {
             int at = number("at", 0, house.places - 1);
             int patience = number("patience", 0, 600);
             int look = number("look", 0, LOOKS);
+            expect("wants");
             if (fault == 0 && house.people < PEOPLE) {
                 Guest guest = house.guests[house.people];
                 guest.comes = comes;
@@ -818,7 +809,6 @@ public final class NextAtBar {
         }
 
         private void readOrders(int[] wanted) {
-            expect("wants");
             readOrder(wanted, true);
             for (int drinks = 1; drinks <= ORDER && fault == 0 && kind == Tokens.COMMA; drinks++) {
                 step();
@@ -923,7 +913,10 @@ public final class NextAtBar {
         }
 
         private int number(String word, int least, int most) {
-            expect(word);
+            if (!stands(word)) {
+                fail(FORM);
+            }
+            step();
             return whole(least, most);
         }
 
@@ -996,9 +989,7 @@ public final class NextAtBar {
                 }
                 times[FEW][next] = scene.house.timeBehind(scene.servers[s].last, who[next]);
             }
-            for (int done = 0; done < BEHIND; done++) {
-                least[done] = 0;
-            }
+            // Of the empty set the sums are 0 from the first, and stay so.
             for (int set = 1; set < 1 << count; set++) {
                 for (int done = 0; done < BEHIND; done++) {
                     least[set * BEHIND + done] = sumWith(set, done, firstOf(set, done));

@@ -1,5 +1,4 @@
 import java.util.ArrayList;
-import java.util.Arrays;
 import java.util.HashMap;
 import java.util.List;
 import java.util.Map;
@@ -893,10 +892,5 @@ final class Model {
 
     int trouble() {
         return trouble;
-    }
-
-    @Override
-    public String toString() {
-        return Arrays.toString(drink);
     }
 }

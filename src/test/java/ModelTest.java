@@ -142,6 +142,9 @@ public final class ModelTest {
         checks.due("where " + text, x.where(), m.where());
         checks.due("fault " + text, x.fault(), m.fault());
         checks.due("trouble " + text, x.trouble(), m.trouble());
+        for (int what = -1; what <= 11; what++) {
+            checks.due("size " + what + " " + text, x.size(what), m.size(what));
+        }
     }
 
     private int p() {
@@ -231,10 +234,10 @@ public final class ModelTest {
                 call(x, m, kind, "no house");
             }
         }
-        for (int round = 0; round < 2; round++) {
+        for (int round = 0; round < 4; round++) {
             String text = text();
             houseBoth(x, m, text);
-            for (int i = 0; i < 130 && checks.wrong() == 0; i++) {
+            for (int i = 0; i < 70 && checks.wrong() == 0; i++) {
                 call(x, m, below(51), "run " + run + " after " + text);
             }
         }

@@ -282,6 +282,25 @@ public final class PromiseTest {
         behind(START + " ", "ale 1", 1);
         behind(START + ",", "ale 1", 3);
         behind(START, "!", 1);
+        String noStaff = HOUSE + ALE + ANN;
+        faultIs(noStaff, 6, noStaff.length());
+        faultIs("a1".repeat(500), 1, 0);
+        faultIs(";".repeat(1000), 1, 0);
+        allNames(drinks, three);
+    }
+
+    /** As many names as can be told, the last of them used. */
+    private static void allNames(String drinks, String three) {
+        String ten = times(10, ";person p", " honest comes 0 at 0 patience 0 look 0 wants de 1");
+        String text = HOUSE + drinks + three + ten + ";shelf pj ready 7;says pj pi before pj";
+        NextAtBar x = Checks.bar(text);
+        answers("3 all names", new int[] {x.size(2), x.size(3), x.size(4), x.wants(9, 4), x.told(9, 6), x.so()}, 5, 3, 10, 1, 7, 1);
+        behind(text + ";shelf ", "pj ready 7", 3);
+        // The third house stands where the first one stood: nothing of that one is left.
+        Checks.house(x, START);
+        Checks.house(x, START);
+        answers("3 nothing left", new int[] {x.size(2), x.size(3), x.size(4), x.size(5), x.size(6), x.wants(0, 1), x.told(0, 6)},
+            2, 1, 1, 0, 0, 0, -2);
     }
 
     private static void asItStands() {
@@ -387,7 +406,6 @@ public final class PromiseTest {
             C.due("II by " + rule + " served " + i, x.served(i), want[i]);
         }
         C.due("II by " + rule + " no more", x.served(want.length), NONE);
-        x.pass(1);
     }
 
     private static void rules() {
@@ -398,6 +416,9 @@ public final class PromiseTest {
         order("row", 0, 3, 5, all, 2, 3, 1, 4);
         order("near", 2, 0, 5, all, 0, 2, 3, 1, 4);
         order("near", 4, 0, 5, all, 1, 2, 3, 0, 4);
+        // The nearer one to the right goes ahead of one further off to the left, of two as near the left one.
+        order("near", 2, 0, 5, man("a", "honest", 0, 0, 600, 0) + man("b", "honest", 0, 3, 600, 0), 1, 0);
+        order("near", 2, 0, 5, man("a", "honest", 0, 4, 600, 0) + man("b", "honest", 0, 0, 600, 0), 1, 0);
         order("eye", 2, 0, 5, all, 1, 2, 3, 4, 0);
         order("asked", 2, 0, 5, all, 2, 0, 1, 4, 3);
         order("regular", 2, 0, 5, all, 1, 4, 0, 2, 3);
@@ -534,6 +555,8 @@ public final class PromiseTest {
         answers("29 has come", new int[] {x.leastLook(0), x.trouble()}, NONE, 5);
         C.due("29 none", Checks.bar(house + man("d", "honest", 2, 0, 3, 0)).leastLook(3), -2);
         C.due("29 patience", Checks.bar(house + man("d", "honest", 2, 0, 9, 0)).leastLook(3), 71);
+        C.due("29 by ninety-nine", Checks.bar(plain(1, 40, 5, 5, staff("s", "eye", 0, 0, 0)) + man("a", "honest", 0, 0, 600, 0)
+            + man("b", "honest", 1, 0, 600, 98) + man("c", "honest", 1, 0, 600, 0)).leastLook(2), 99);
         C.due("29 the greatest", Checks.bar(plain(1, 40, 5, 5, staff("s", "eye", 0, 0, 0)) + man("a", "honest", 0, 0, 600, 0)
             + man("b", "honest", 1, 0, 600, 99) + man("c", "honest", 1, 0, 600, 0)).leastLook(2), 0);
     }
@@ -754,6 +777,28 @@ public final class PromiseTest {
         C.due("53 gone", x.trouble(), 0);
     }
 
+    /** Numbers far out of all bounds are refused like those next to the bounds. */
+    private static void farOut() {
+        for (int far : new int[] {Integer.MIN_VALUE, Integer.MIN_VALUE + 1, -1000, 1000, Integer.MAX_VALUE - 1, Integer.MAX_VALUE}) {
+            NextAtBar x = Checks.bar(EVENING);
+            x.pass(4);
+            x.image();
+            int[] none = {x.house(far), x.person(far, 0), x.person(0, far), x.staff(far, 0), x.staff(0, far), x.elbows(far), x.next(far),
+                x.time(far, 0), x.time(0, far), x.costs(far), x.fate(far), x.waits(far), x.whom(far), x.has(far), x.passed(far),
+                x.pushed(far), x.sum(far), x.served(far), x.by(far, true, 0), x.by(0, true, far), x.bestPlace(far), x.bestManner(far),
+                x.leastLook(far), x.bell(far, 0), x.bell(9, far), x.waitingAt(far), x.honesty(far, true), x.rest(far), x.row(far, 0),
+                x.row(0, far), x.rowSum(far), x.surely(far, 0), x.surely(0, far), x.pass(far), x.calls(far), x.told(far, 0),
+                x.told(0, far), x.wants(far, 0), x.wants(0, far), x.size(far)};
+            for (int i = 0; i < none.length; i++) {
+                C.due("far out " + far + ", call " + i, none[i], NONE);
+            }
+            answers("far out", new int[] {x.beforehand(far), x.letCosts(far, 1), x.letCosts(1, far)}, -1000, -1000, -1000);
+            C.due("far out acts", x.moves(far, 0) || x.moves(1, far) || x.lets(far, 1) || x.lets(1, far) || x.leaves(far) || x.back(far), false);
+            C.due("far out led", throwsNone(x, far), true);
+            C.due("far out no act", x.size(8), 1);
+        }
+    }
+
     public static void main(String[] args) {
         newObject();
         feeding();
@@ -779,6 +824,7 @@ public final class PromiseTest {
         acts();
         images();
         whatIsTold();
+        farOut();
         C.end();
     }
 }
