@@ -7,6 +7,8 @@ public final class NextAtBar {
 
     // What the document answers with -2: a thing that has not come about, or nobody.
     private static final int NEVER = -2;
+    // More than any second, wait or sum can be.
+    private static final int BEYOND_ALL = 1000000;
 
     private static final int TAPE = 1000;
     private static final int FEED = 20;
@@ -182,7 +184,7 @@ public final class NextAtBar {
         }
 
         int firstFree(int second) {
-            int first = Integer.MAX_VALUE;
+            int first = BEYOND_ALL;
             for (int h = 0; h < HANDS && h < hands; h++) {
                 first = Math.min(first, Math.max(second, free[h]));
             }
@@ -359,7 +361,7 @@ public final class NextAtBar {
         }
 
         private int nextStir(int t) {
-            int next = Integer.MAX_VALUE;
+            int next = BEYOND_ALL;
             for (int p = 0; p < people; p++) {
                 Guest guest = guests[p];
                 if (guest.state == AWAY) {
@@ -477,7 +479,7 @@ public final class NextAtBar {
 
         /** WAIT of one who has it; without it no wait is good enough. */
         int servedWait(int p) {
-            return guests[p].isServed() ? waitOf(p) : Integer.MAX_VALUE;
+            return guests[p].isServed() ? waitOf(p) : BEYOND_ALL;
         }
 
         int total(int what) {
@@ -1004,7 +1006,7 @@ public final class NextAtBar {
 
         private int firstOf(int set, int done) {
             int best = 0;
-            int bestSum = Integer.MAX_VALUE;
+            int bestSum = BEYOND_ALL;
             for (int next = 0; next < count; next++) {
                 if ((set >> next & 1) == 1) {
                     int sum = sumWith(set, done, next);
@@ -1361,7 +1363,7 @@ public final class NextAtBar {
             return NONE;
         }
         int best = 0;
-        int least = Integer.MAX_VALUE;
+        int least = BEYOND_ALL;
         for (int rule = 0; rule < RULES; rule++) {
             int bad = turn ? totalBy(rule, false, SUM_OUT_OF_TURN) : -totalBy(rule, false, SUM_SERVED);
             if (bad < least) {
@@ -1403,7 +1405,7 @@ public final class NextAtBar {
             return NONE;
         }
         int best = NEVER;
-        int least = Integer.MAX_VALUE;
+        int least = BEYOND_ALL;
         for (int at = 0; at < house.places; at++) {
             Scene changed = asNow();
             changed.guests[p].place = at;
@@ -1421,7 +1423,7 @@ public final class NextAtBar {
             return NONE;
         }
         int best = NEVER;
-        int least = Integer.MAX_VALUE;
+        int least = BEYOND_ALL;
         for (int manner = 0; manner < MANNERS; manner++) {
             Scene changed = asNow();
             changed.guests[p].behave(manner, LIE);
@@ -1448,7 +1450,7 @@ public final class NextAtBar {
 
     private int bestCut() {
         int best = 0;
-        int least = Integer.MAX_VALUE;
+        int least = BEYOND_ALL;
         for (int at = 0; at <= house.places - 2; at++) {
             int waits = waitsByCut(at);
             if (waits < least) {
@@ -1472,7 +1474,7 @@ public final class NextAtBar {
             return NONE;
         }
         int best = NEVER;
-        int least = Integer.MAX_VALUE;
+        int least = BEYOND_ALL;
         for (int look = 0; look <= LOOKS; look++) {
             Scene changed = asNow();
             changed.guests[p].look = look;

@@ -2,13 +2,21 @@
 final class Checks {
     private int wrong;
     private int asked;
+    private int sentences;
+    private String sentence = "";
+
+    /** From here on a sentence of the document is tested, and no other. */
+    void sentence(String words) {
+        sentence = words + ": ";
+        sentences++;
+    }
 
     void due(String what, long got, long want) {
         asked++;
         if (got != want) {
             wrong++;
             if (wrong <= 40) {
-                System.out.println(what + " answered " + got + ", due is " + want);
+                System.out.println(sentence + what + " answered " + got + ", due is " + want);
             }
         }
     }
@@ -17,12 +25,40 @@ final class Checks {
         due(what, got ? 1 : 0, want ? 1 : 0);
     }
 
+    void answers(String what, int[] got, int... want) {
+        due(what + " length", got.length, want.length);
+        for (int i = 0; i < got.length && i < want.length; i++) {
+            due(what + " [" + i + "]", got[i], want[i]);
+        }
+    }
+
+    void reads(String text, int people) {
+        NextAtBar x = new NextAtBar();
+        int got = house(x, text);
+        due("house (fault " + x.fault() + " at " + x.where() + ") " + text, got, people);
+        due("trouble " + text, x.trouble(), 0);
+    }
+
+    void faultIs(String text, int fault, int place) {
+        NextAtBar x = new NextAtBar();
+        due("house " + text, house(x, text), NextAtBar.NONE);
+        due("trouble " + text, x.trouble(), 4);
+        due("fault " + text, x.fault(), fault);
+        due("where " + text, x.where(), place);
+    }
+
+    /** A fault at the first byte of what is put behind the text. */
+    void behind(String text, String more, int fault) {
+        faultIs(text + more, fault, text.length());
+    }
+
     int wrong() {
         return wrong;
     }
 
     void end() {
-        System.out.println(wrong == 0 ? asked + " answers are as due" : wrong + " of " + asked + " answers are not as due");
+        String what = (sentences > 0 ? sentences + " sentences, " : "") + asked + " answers";
+        System.out.println(wrong == 0 ? what + " are as due" : wrong + " of " + what + " are not as due");
         if (wrong != 0) {
             System.exit(1);
         }
@@ -49,6 +85,9 @@ final class Checks {
     }
 
     static int house(NextAtBar x, String text) {
+        if (text.length() > 1000 - x.size(10)) {
+            throw new IllegalArgumentException("too long a text for the tape: " + text);
+        }
         feed(x, text);
         return x.house(text.length());
     }

@@ -1,46 +1,6 @@
-import java.util.NoSuchElementException;
-
 /** Each promise by answers that were found by hand from the document. */
-public final class PromiseTest {
+public final class PromiseTest extends Bars {
     private static final Checks C = new Checks();
-    private static final int NONE = NextAtBar.NONE;
-
-    private static final String HOUSE = "house long 5 bell 40";
-    private static final String ALE = ";drink ale takes 4 then 1 costs 3";
-    private static final String GIN = ";drink gin takes 6 then 0 costs 7";
-    private static final String SAM = ";staff sam asked at 2 from 0 to 4 step 1 hands 1";
-    private static final String ANN = ";person ann honest comes 0 at 2 patience 50 look 10 wants ale 2";
-    private static final String START = HOUSE + ALE + GIN + SAM + ANN;
-
-    // Sam begins with ann at 0 (till 5), bob at 5 (2 steps, 6: till 13), cat at 13 (4 steps, 4: till 21);
-    // eve has her shelf at 9, dan gives up at 9.
-    private static final String EVENING = START
-        + ";person bob liar 9 comes 2 at 0 patience 50 look 20 wants gin 1"
-        + ";person cat polite 3 comes 1 at 4 patience 50 look 30 wants ale 1,gin 2"
-        + ";person dan regular comes 3 at 2 patience 6 look 40 wants gin 1"
-        + ";person eve honest comes 2 at 1 patience 50 look 98 wants ale 3;shelf eve ready 9"
-        + ";says ann ann before bob;says bob bob before cat;says bob eve before dan";
-
-    /** A house of one drink (takes, then), staff and people as they are told. */
-    private static String plain(int places, int bell, int takes, int then, String more) {
-        return "house long " + places + " bell " + bell + ";drink x takes " + takes + " then " + then + " costs 1" + more;
-    }
-
-    private static String staff(String name, String rule, int at, int from, int to) {
-        return ";staff " + name + " " + rule + " at " + at + " from " + from + " to " + to + " step 0 hands 1";
-    }
-
-    private static String man(String name, String manner, int comes, int at, int patience, int look) {
-        return ";person " + name + " " + manner + " comes " + comes + " at " + at + " patience " + patience + " look "
-            + look + " wants x 1";
-    }
-
-    private static void answers(String what, int[] got, int... want) {
-        C.due(what + " length", got.length, want.length);
-        for (int i = 0; i < got.length && i < want.length; i++) {
-            C.due(what + " [" + i + "]", got[i], want[i]);
-        }
-    }
 
     private static void newObject() {
         NextAtBar x = new NextAtBar();
@@ -132,19 +92,6 @@ public final class PromiseTest {
         C.due("3 no bytes are no house", x.fault() * 100 + x.where(), 100);
     }
 
-    private static void faultIs(String text, int fault, int place) {
-        NextAtBar x = new NextAtBar();
-        C.due("house " + text, Checks.house(x, text), NONE);
-        C.due("trouble " + text, x.trouble(), 4);
-        C.due("fault " + text, x.fault(), fault);
-        C.due("where " + text, x.where(), place);
-    }
-
-    /** A fault at the first byte of what is put behind the text. */
-    private static void behind(String text, String more, int fault) {
-        faultIs(text + more, fault, text.length());
-    }
-
     private static void faults() {
         NextAtBar x = Checks.bar(START);
         C.due("4 none", x.fault(), 0);
@@ -173,70 +120,70 @@ public final class PromiseTest {
     }
 
     private static void formFaults() {
-        faultIs("", 1, 0);
-        faultIs("   ", 1, 3);
-        faultIs("ale", 1, 0);
-        faultIs("5", 1, 0);
-        faultIs(";", 1, 0);
-        faultIs("House long 5 bell 40", 1, 0);
-        faultIs("\u00ff", 1, 0);
-        faultIs("householder", 1, 0);
-        faultIs("house longest 5", 1, 6);
-        behind("house long ", "0005 bell 40", 1);
-        behind("house ", "5", 1);
-        behind("house long 5 bell", "", 1);
-        behind("house long 5 bell  ", ";", 1);
-        behind(START + ",", "", 1);
+        C.faultIs("", 1, 0);
+        C.faultIs("   ", 1, 3);
+        C.faultIs("ale", 1, 0);
+        C.faultIs("5", 1, 0);
+        C.faultIs(";", 1, 0);
+        C.faultIs("House long 5 bell 40", 1, 0);
+        C.faultIs("\u00ff", 1, 0);
+        C.faultIs("householder", 1, 0);
+        C.faultIs("house longest 5", 1, 6);
+        C.behind("house long ", "0005 bell 40", 1);
+        C.behind("house ", "5", 1);
+        C.behind("house long 5 bell", "", 1);
+        C.behind("house long 5 bell  ", ";", 1);
+        C.behind(START + ",", "", 1);
     }
 
     private static void nameFaults() {
-        behind(START + ";person p honest comes 0 at 0 patience 0 look 0 wants ", "rum 1", 2);
-        behind(START + ";person p honest comes 0 at 0 patience 0 look 0 wants ", "sam 1", 2);
-        behind(START + ";person p honest comes 0 at 0 patience 0 look 0 wants ", "p 1", 2);
-        behind(START + ";person p honest comes 0 at 0 patience 0 look 0 wants ", "staff 1", 1);
-        behind(START + ";shelf ", "sam ready 1", 2);
-        behind(START + ";shelf ", "bob ready 1", 2);
-        behind(START + ";says ", "ale ann before ann", 2);
-        behind(START + ";says ann ", "ale before ann", 2);
-        behind(START + ";says ann ann before ", "ale", 2);
-        behind(START + ";says ann ann before ", "ann", 3);
-        behind(START + ";shelf ann ready 3;shelf ", "ann ready 3", 3);
-        behind(START + ";drink ", "ale", 3);
-        behind(START + ";drink ", "sam", 3);
-        behind(START + ";staff ", "ann", 3);
-        behind(START + ";person ", "ale", 3);
-        behind(START + ";person ", "says", 1);
-        behind(START + ";person ", "7", 1);
-        behind(START + ";", HOUSE, 3);
+        C.behind(START + ";person p honest comes 0 at 0 patience 0 look 0 wants ", "rum 1", 2);
+        C.behind(START + ";person p honest comes 0 at 0 patience 0 look 0 wants ", "sam 1", 2);
+        C.behind(START + ";person p honest comes 0 at 0 patience 0 look 0 wants ", "p 1", 2);
+        C.behind(START + ";person p honest comes 0 at 0 patience 0 look 0 wants ", "staff 1", 1);
+        C.behind(START + ";shelf ", "sam ready 1", 2);
+        C.behind(START + ";shelf ", "bob ready 1", 2);
+        C.behind(START + ";says ", "ale ann before ann", 2);
+        C.behind(START + ";says ann ", "ale before ann", 2);
+        C.behind(START + ";says ann ann before ", "ale", 2);
+        C.behind(START + ";says ann ann before ", "ann", 3);
+        C.behind(START + ";shelf ann ready 3;shelf ", "ann ready 3", 3);
+        C.behind(START + ";drink ", "ale", 3);
+        C.behind(START + ";drink ", "sam", 3);
+        C.behind(START + ";staff ", "ann", 3);
+        C.behind(START + ";person ", "ale", 3);
+        C.behind(START + ";person ", "says", 1);
+        C.behind(START + ";person ", "7", 1);
+        C.behind(START + ";", HOUSE, 3);
     }
 
     private static void boundFaults() {
-        behind("house long ", "0", 4);
-        behind("house long ", "21", 4);
-        behind("house long 20 bell ", "0", 4);
-        behind("house long 20 bell ", "601", 4);
-        behind(HOUSE + ";drink a takes ", "0", 4);
-        behind(HOUSE + ";drink a takes ", "91", 4);
-        behind(HOUSE + ";drink a takes 90 then ", "91", 4);
-        behind(HOUSE + ";drink a takes 90 then 90 costs ", "100", 4);
-        behind(HOUSE + ";staff s row at ", "5", 4);
-        behind(HOUSE + ";staff s row at 4 from ", "5", 4);
-        behind(HOUSE + ";staff s row at 4 from 3 to ", "5", 4);
-        behind(HOUSE + ";staff s row at 4 from 3 to ", "2", 4);
-        behind(HOUSE + ";staff s row at 4 from 3 to 3 step ", "10", 4);
-        behind(HOUSE + ";staff s row at 4 from 3 to 3 step 9 hands ", "0", 4);
-        behind(HOUSE + ";staff s row at 4 from 3 to 3 step 9 hands ", "3", 4);
-        behind(START + ";person p liar ", "0", 4);
-        behind(START + ";person p polite ", "100", 4);
-        behind(START + ";person p liar ", "comes", 1);
-        behind(START + ";person p honest ", "1", 1);
-        behind(START + ";person p regular comes ", "41", 4);
-        behind(START + ";person p regular comes 40 at ", "5", 4);
-        behind(START + ";person p regular comes 40 at 4 patience ", "601", 4);
-        behind(START + ";person p regular comes 40 at 4 patience 600 look ", "100", 4);
-        behind(START + ";person p regular comes 40 at 4 patience 600 look 99 wants ale ", "0", 4);
-        behind(START + ";person p regular comes 40 at 4 patience 600 look 99 wants ale ", "10", 4);
-        behind(START + ";shelf ann ready ", "41", 4);
+        C.behind("house long ", "0", 4);
+        C.behind("house long ", "21", 4);
+        C.behind("house long 20 bell ", "0", 4);
+        C.behind("house long 20 bell ", "601", 4);
+        C.behind(HOUSE + ";drink a takes ", "0", 4);
+        C.behind(HOUSE + ";drink a takes ", "91", 4);
+        C.behind(HOUSE + ";drink a takes 90 then ", "91", 4);
+        C.behind(HOUSE + ";drink a takes 90 then 90 costs ", "100", 4);
+        C.behind(HOUSE + ";staff s row at ", "5", 4);
+        C.behind(HOUSE + ";staff s row at 4 from ", "5", 4);
+        C.behind(HOUSE + ";staff s row at 4 from 3 to ", "5", 4);
+        C.behind(HOUSE + ";staff s row at 4 from 3 to ", "2", 4);
+        C.behind(HOUSE + ";staff s row at 4 from 3 to 3 step ", "10", 4);
+        C.behind(HOUSE + ";staff s row at 4 from 3 to 3 step 9 hands ", "0", 4);
+        C.behind(HOUSE + ";staff s row at 4 from 3 to 3 step 9 hands ", "3", 4);
+        C.behind(START + ";person p liar ", "0", 4);
+        C.behind(START + ";person p polite ", "100", 4);
+        C.behind(START + ";person p liar ", "comes", 1);
+        C.behind(START + ";person p honest ", "1", 1);
+        C.behind(START + ";person p regular comes ", "41", 4);
+        C.behind(START + ";person p regular comes 40 at ", "5", 4);
+        C.behind(START + ";person p regular comes 40 at 4 patience ", "601", 4);
+        C.behind(START + ";person p regular comes 40 at 4 patience 600 look ", "100", 4);
+        C.behind(START + ";person p regular comes 40 at 4 patience 600 look 99 wants ale ", "0", 4);
+        C.behind(START + ";person p regular comes 40 at 4 patience 600 look 99 wants ale ", "10", 4);
+        C.behind(START + ";shelf ann ready ", "41", 4);
         Checks.bar("house long 20 bell 600;drink a takes 90 then 90 costs 99;drink b takes 1 then 0 costs 0"
             + ";staff s row at 19 from 19 to 19 step 9 hands 2"
             + ";person abcdefgh liar 99 comes 600 at 19 patience 600 look 99 wants a 9,b 1;shelf abcdefgh ready 600");
@@ -244,48 +191,40 @@ public final class PromiseTest {
             + " ; person liar liar 1 comes 0 at 0 patience 0 look 0 wants long 1;shelf liar ready 0  ");
     }
 
-    private static String times(int n, String before, String behind) {
-        StringBuilder b = new StringBuilder();
-        for (int i = 0; i < n; i++) {
-            b.append(before).append((char) ('a' + i)).append(behind);
-        }
-        return b.toString();
-    }
-
     private static void manyFaults() {
         String drinks = times(5, ";drink d", " takes 1 then 1 costs 1");
-        behind(HOUSE + drinks + ";", "drink z", 5);
+        C.behind(HOUSE + drinks + ";", "drink z", 5);
         String three = times(3, ";staff s", " row at 0 from 0 to 0 step 0 hands 1");
-        behind(HOUSE + three + ";", "staff z", 5);
+        C.behind(HOUSE + three + ";", "staff z", 5);
         String one = "house long 5 bell 4;drink a takes 1 then 1 costs 1;staff b row at 0 from 0 to 0 step 0 hands 1";
         String ten = times(10, ";person p", " honest comes 0 at 0 patience 0 look 0 wants a 1");
         C.due("3 ten people", Checks.house(new NextAtBar(), one + ten), 10);
-        behind(one + ten + ";", "person z", 5);
+        C.behind(one + ten + ";", "person z", 5);
         String eight = START + ";person bob honest comes 0 at 0 patience 0 look 0 wants gin 9" + times(8, ";says ann ann before bob", "")
             .replaceAll("bob.", "bob");
         C.due("52 eight tellings", Checks.bar(eight).size(6), 8);
-        behind(eight + ";", "says ann", 5);
+        C.behind(eight + ";", "says ann", 5);
         String wants = HOUSE + drinks + three + ";person p honest comes 0 at 0 patience 0 look 0 wants da 1,db 1,dc 1";
         C.due("50 three drinks", Checks.bar(wants).wants(0, 2), 1);
-        behind(wants + ",", "dd 1", 5);
-        behind(wants + ",", "da 1", 3);
-        behind(wants + ",", "zz 1", 2);
-        behind(wants + ",", ";", 1);
-        behind("", "drink a", 6);
-        behind("", "says a", 6);
-        behind("", "staff", 6);
-        faultIs(HOUSE + ALE + SAM, 6, (HOUSE + ALE + SAM).length());
-        faultIs(HOUSE + ALE + "  ", 6, (HOUSE + ALE + "  ").length());
-        faultIs(HOUSE + SAM, 6, (HOUSE + SAM).length());
-        faultIs(HOUSE + ";", 1, (HOUSE + ";").length());
-        behind(START + " ", "extra", 1);
-        behind(START + " ", "ale 1", 1);
-        behind(START + ",", "ale 1", 3);
-        behind(START, "!", 1);
+        C.behind(wants + ",", "dd 1", 5);
+        C.behind(wants + ",", "da 1", 3);
+        C.behind(wants + ",", "zz 1", 2);
+        C.behind(wants + ",", ";", 1);
+        C.behind("", "drink a", 6);
+        C.behind("", "says a", 6);
+        C.behind("", "staff", 6);
+        C.faultIs(HOUSE + ALE + SAM, 6, (HOUSE + ALE + SAM).length());
+        C.faultIs(HOUSE + ALE + "  ", 6, (HOUSE + ALE + "  ").length());
+        C.faultIs(HOUSE + SAM, 6, (HOUSE + SAM).length());
+        C.faultIs(HOUSE + ";", 1, (HOUSE + ";").length());
+        C.behind(START + " ", "extra", 1);
+        C.behind(START + " ", "ale 1", 1);
+        C.behind(START + ",", "ale 1", 3);
+        C.behind(START, "!", 1);
         String noStaff = HOUSE + ALE + ANN;
-        faultIs(noStaff, 6, noStaff.length());
-        faultIs("a1".repeat(500), 1, 0);
-        faultIs(";".repeat(1000), 1, 0);
+        C.faultIs(noStaff, 6, noStaff.length());
+        C.faultIs("a1".repeat(500), 1, 0);
+        C.faultIs(";".repeat(1000), 1, 0);
         allNames(drinks, three);
     }
 
@@ -294,12 +233,12 @@ public final class PromiseTest {
         String ten = times(10, ";person p", " honest comes 0 at 0 patience 0 look 0 wants de 1");
         String text = HOUSE + drinks + three + ten + ";shelf pj ready 7;says pj pi before pj";
         NextAtBar x = Checks.bar(text);
-        answers("3 all names", new int[] {x.size(2), x.size(3), x.size(4), x.wants(9, 4), x.told(9, 6), x.so()}, 5, 3, 10, 1, 7, 1);
-        behind(text + ";shelf ", "pj ready 7", 3);
+        C.answers("3 all names", new int[] {x.size(2), x.size(3), x.size(4), x.wants(9, 4), x.told(9, 6), x.so()}, 5, 3, 10, 1, 7, 1);
+        C.behind(text + ";shelf ", "pj ready 7", 3);
         // The third house stands where the first one stood: nothing of that one is left.
         Checks.house(x, START);
         Checks.house(x, START);
-        answers("3 nothing left", new int[] {x.size(2), x.size(3), x.size(4), x.size(5), x.size(6), x.wants(0, 1), x.told(0, 6)},
+        C.answers("3 nothing left", new int[] {x.size(2), x.size(3), x.size(4), x.size(5), x.size(6), x.wants(0, 1), x.told(0, 6)},
             2, 1, 1, 0, 0, 0, -2);
     }
 
@@ -307,41 +246,32 @@ public final class PromiseTest {
         NextAtBar x = Checks.bar(EVENING);
         x.pass(6);
         // Now 6: ann has it, bob is begun with, cat, dan and eve wait.
-        answers("6 state", new int[] {x.person(0, 0), x.person(1, 0), x.person(2, 0), x.person(3, 0)}, 3, 2, 1, 1);
-        answers("6 bob", new int[] {x.person(1, 1), x.person(1, 2), x.person(1, 3), x.person(1, 4), x.person(1, 5)},
+        C.answers("6 state", new int[] {x.person(0, 0), x.person(1, 0), x.person(2, 0), x.person(3, 0)}, 3, 2, 1, 1);
+        C.answers("6 bob", new int[] {x.person(1, 1), x.person(1, 2), x.person(1, 3), x.person(1, 4), x.person(1, 5)},
             0, 20, -7, 5, 13);
-        answers("6 cat", new int[] {x.person(2, 1), x.person(2, 2), x.person(2, 3), x.person(2, 4), x.person(2, 5)},
+        C.answers("6 cat", new int[] {x.person(2, 1), x.person(2, 2), x.person(2, 3), x.person(2, 4), x.person(2, 5)},
             4, 30, 4, -2, -2);
-        answers("6 wrong", new int[] {x.person(5, 0), x.person(-1, 0), x.person(0, 6), x.person(0, -1)},
+        C.answers("6 wrong", new int[] {x.person(5, 0), x.person(-1, 0), x.person(0, 6), x.person(0, -1)},
             NONE, NONE, NONE, NONE);
         C.due("6 trouble", x.trouble(), 1);
-        answers("7", new int[] {x.staff(0, 0), x.staff(0, 1), x.staff(0, 2), x.staff(1, 0), x.staff(0, 3), x.staff(0, -1)},
+        C.answers("7", new int[] {x.staff(0, 0), x.staff(0, 1), x.staff(0, 2), x.staff(1, 0), x.staff(0, 3), x.staff(0, -1)},
             0, 1, 13, NONE, NONE, NONE);
-        answers("8", new int[] {x.elbows(0), x.elbows(1), x.elbows(2), x.elbows(4), x.elbows(5), x.elbows(-1)},
+        C.answers("8", new int[] {x.elbows(0), x.elbows(1), x.elbows(2), x.elbows(4), x.elbows(5), x.elbows(-1)},
             0, 1, 1, 1, NONE, NONE);
         C.due("9", x.waiting(), 3);
         C.due("9 trouble", x.trouble(), 0);
         // eve says 2, dan 3, cat 4.
-        answers("10", new int[] {x.next(0), x.next(1), x.next(-1)}, 4, NONE, NONE);
+        C.answers("10", new int[] {x.next(0), x.next(1), x.next(-1)}, 4, NONE, NONE);
         // Behind bob's gin: gin takes none, ale all.
-        answers("11", new int[] {x.time(0, 0), x.time(0, 1), x.time(0, 2), x.time(0, 4), x.time(0, 5), x.time(1, 0)},
+        C.answers("11", new int[] {x.time(0, 0), x.time(0, 1), x.time(0, 2), x.time(0, 4), x.time(0, 5), x.time(1, 0)},
             5, 0, 4, 6, NONE, NONE);
-        answers("12", new int[] {x.costs(0), x.costs(2), x.costs(4), x.costs(5)}, 6, 17, 9, NONE);
-        answers("51", new int[] {x.led(0), x.led(1), x.led(2)}, 2, 3, 4);
+        C.answers("12", new int[] {x.costs(0), x.costs(2), x.costs(4), x.costs(5)}, 6, 17, 9, NONE);
+        C.answers("51", new int[] {x.led(0), x.led(1), x.led(2)}, 2, 3, 4);
         C.due("51 none such", throwsNone(x, 3) && throwsNone(x, -1), true);
         x.pass(4);
-        answers("6 later", new int[] {x.person(3, 0), x.person(4, 0), x.person(4, 4), x.person(4, 5)}, 4, 3, -2, 9);
+        C.answers("6 later", new int[] {x.person(3, 0), x.person(4, 0), x.person(4, 4), x.person(4, 5)}, 4, 3, -2, 9);
         x.leaves(2);
-        answers("6 left", new int[] {x.person(2, 0), x.waiting(), x.next(0), x.trouble()}, 5, 0, -2, 0);
-    }
-
-    private static boolean throwsNone(NextAtBar x, int i) {
-        try {
-            x.led(i);
-            return false;
-        } catch (NoSuchElementException e) {
-            return true;
-        }
+        C.answers("6 left", new int[] {x.person(2, 0), x.waiting(), x.next(0), x.trouble()}, 5, 0, -2, 0);
     }
 
     private static void hands() {
@@ -349,34 +279,34 @@ public final class PromiseTest {
         NextAtBar x = Checks.bar("house long 2 bell 20;drink x takes 6 then 4 costs 1"
             + ";staff s row at 0 from 0 to 1 step 0 hands 2" + man("a", "honest", 0, 0, 90, 0)
             + man("b", "honest", 0, 0, 90, 0) + man("c", "honest", 0, 0, 90, 0));
-        answers("7 at first", new int[] {x.staff(0, 1), x.staff(0, 2)}, 0, 0);
+        C.answers("7 at first", new int[] {x.staff(0, 1), x.staff(0, 2)}, 0, 0);
         x.pass(1);
-        answers("7 both busy", new int[] {x.staff(0, 1), x.staff(0, 2), x.waiting()}, 2, 4, 1);
+        C.answers("7 both busy", new int[] {x.staff(0, 1), x.staff(0, 2), x.waiting()}, 2, 4, 1);
         x.pass(3);
-        answers("7 one free", new int[] {x.size(7), x.staff(0, 1), x.staff(0, 2), x.next(0)}, 4, 1, 4, 2);
+        C.answers("7 one free", new int[] {x.size(7), x.staff(0, 1), x.staff(0, 2), x.next(0)}, 4, 1, 4, 2);
         x.pass(1);
-        answers("7 busy again", new int[] {x.staff(0, 1), x.staff(0, 2), x.has(2)}, 2, 6, 8);
+        C.answers("7 busy again", new int[] {x.staff(0, 1), x.staff(0, 2), x.has(2)}, 2, 6, 8);
         // An order of no time leaves the hand free in that very second.
         NextAtBar y = Checks.bar(plain(1, 9, 3, 0, staff("s", "row", 0, 0, 0)) + man("a", "honest", 0, 0, 90, 0)
             + man("b", "honest", 1, 0, 90, 0) + man("c", "honest", 1, 0, 90, 0));
-        answers("II no time", new int[] {y.has(0), y.has(1), y.has(2), y.waits(1), y.waits(2)}, 3, 3, 3, 2, 2);
+        C.answers("II no time", new int[] {y.has(0), y.has(1), y.has(2), y.waits(1), y.waits(2)}, 3, 3, 3, 2, 2);
     }
 
     private static void anEvening() {
         NextAtBar x = Checks.bar(EVENING);
         for (int now = 0; now <= 41; now++) {
             String at = " from " + now;
-            answers("13" + at, new int[] {x.fate(0), x.fate(1), x.fate(2), x.fate(3), x.fate(4), x.fate(5)}, 0, 0, 0, 2, 1, NONE);
-            answers("14" + at, new int[] {x.waits(0), x.waits(1), x.waits(2), x.waits(3), x.waits(4), x.waits(-1)},
+            C.answers("13" + at, new int[] {x.fate(0), x.fate(1), x.fate(2), x.fate(3), x.fate(4), x.fate(5)}, 0, 0, 0, 2, 1, NONE);
+            C.answers("14" + at, new int[] {x.waits(0), x.waits(1), x.waits(2), x.waits(3), x.waits(4), x.waits(-1)},
                 0, 3, 12, 6, 7, NONE);
-            answers("15" + at, new int[] {x.whom(0), x.whom(2), x.whom(3), x.whom(4), x.whom(5)}, 0, 0, -2, -2, NONE);
-            answers("16" + at, new int[] {x.has(0), x.has(1), x.has(2), x.has(3), x.has(4), x.has(5)}, 5, 13, 21, -2, 9, NONE);
+            C.answers("15" + at, new int[] {x.whom(0), x.whom(2), x.whom(3), x.whom(4), x.whom(5)}, 0, 0, -2, -2, NONE);
+            C.answers("16" + at, new int[] {x.has(0), x.has(1), x.has(2), x.has(3), x.has(4), x.has(5)}, 5, 13, 21, -2, 9, NONE);
             // eve came at once with bob, with a greater number: bob did not push in ahead of her.
-            answers("17" + at, new int[] {x.passed(0), x.passed(2), x.passed(4), x.passed(5)}, 0, 2, 0, NONE);
-            answers("18" + at, new int[] {x.pushed(0), x.pushed(1), x.pushed(2), x.pushed(5)}, 0, 4, 0, NONE);
-            answers("19" + at, new int[] {x.sum(0), x.sum(1), x.sum(2), x.sum(3), x.sum(4), x.sum(5), x.sum(6), x.sum(-1)},
+            C.answers("17" + at, new int[] {x.passed(0), x.passed(2), x.passed(4), x.passed(5)}, 0, 2, 0, NONE);
+            C.answers("18" + at, new int[] {x.pushed(0), x.pushed(1), x.pushed(2), x.pushed(5)}, 0, 4, 0, NONE);
+            C.answers("19" + at, new int[] {x.sum(0), x.sum(1), x.sum(2), x.sum(3), x.sum(4), x.sum(5), x.sum(6), x.sum(-1)},
                 4, 1, 0, 28, 1, 39, NONE, NONE);
-            answers("20" + at, new int[] {x.served(0), x.served(1), x.served(2), x.served(3), x.served(-1)}, 0, 1, 2, NONE, NONE);
+            C.answers("20" + at, new int[] {x.served(0), x.served(1), x.served(2), x.served(3), x.served(-1)}, 0, 1, 2, NONE, NONE);
             C.due("20 trouble", x.trouble(), 1);
             if (now % 11 == 10) {
                 x = Checks.bar(EVENING);
@@ -389,14 +319,14 @@ public final class PromiseTest {
             + ";staff tim row at 4 from 0 to 0 step 0 hands 1");
         y.pass(4);
         y.leaves(1);
-        answers("13, 14 left", new int[] {y.fate(1), y.waits(1), y.sum(0), y.sum(1), y.sum(2), y.sum(3)}, 4, -2, 1, 0, 0, 0);
+        C.answers("13, 14 left", new int[] {y.fate(1), y.waits(1), y.sum(0), y.sum(1), y.sum(2), y.sum(3)}, 4, -2, 1, 0, 0, 0);
         // Nobody serves place 3: who stands there waits to the bell.
         NextAtBar z = Checks.bar(plain(4, 30, 5, 5, staff("s", "row", 0, 0, 2)) + man("a", "honest", 7, 3, 600, 0)
             + man("b", "honest", 30, 0, 600, 0) + man("c", "honest", 7, 3, 0, 0));
-        answers("13 still waiting", new int[] {z.fate(0), z.waits(0), z.has(0), z.whom(0)}, 3, 23, -2, -2);
-        answers("13 begun at the bell", new int[] {z.fate(1), z.waits(1), z.has(1)}, 0, 0, 35);
-        answers("13 no patience", new int[] {z.fate(2), z.waits(2)}, 2, 0);
-        answers("19", new int[] {z.sum(0), z.sum(1), z.sum(2), z.sum(3), z.sum(5)}, 1, 1, 1, 23, 1);
+        C.answers("13 still waiting", new int[] {z.fate(0), z.waits(0), z.has(0), z.whom(0)}, 3, 23, -2, -2);
+        C.answers("13 begun at the bell", new int[] {z.fate(1), z.waits(1), z.has(1)}, 0, 0, 35);
+        C.answers("13 no patience", new int[] {z.fate(2), z.waits(2)}, 2, 0);
+        C.answers("19", new int[] {z.sum(0), z.sum(1), z.sum(2), z.sum(3), z.sum(5)}, 1, 1, 1, 23, 1);
     }
 
     /** Who is begun with one by one, all of them waiting from second 0 on. */
@@ -429,13 +359,13 @@ public final class PromiseTest {
         }
         // By numbers the first of the staff begins first.
         NextAtBar x = Checks.bar(plain(6, 99, 5, 5, staff("s", "row", 0, 0, 5) + staff("t", "eye", 0, 0, 5)) + all);
-        answers("II two staff", new int[] {x.whom(0), x.whom(1), x.served(0), x.served(1)}, 0, 1, 0, 1);
+        C.answers("II two staff", new int[] {x.whom(0), x.whom(1), x.served(0), x.served(1)}, 0, 1, 0, 1);
         // A shelf at his coming goes ahead of giving up and of staff.
         NextAtBar y = Checks.bar(plain(1, 9, 5, 5, staff("s", "row", 0, 0, 0)) + man("a", "honest", 3, 0, 0, 0) + ";shelf a ready 2");
-        answers("II shelf", new int[] {y.fate(0), y.has(0), y.waits(0)}, 1, 3, 0);
+        C.answers("II shelf", new int[] {y.fate(0), y.has(0), y.waits(0)}, 1, 3, 0);
         NextAtBar z = Checks.bar(plain(1, 9, 9, 5, staff("s", "row", 0, 0, 0)) + man("b", "honest", 2, 0, 3, 0)
             + man("a", "honest", 2, 0, 3, 0) + ";shelf a ready 5");
-        answers("II shelf ahead of giving up", new int[] {z.fate(1), z.has(1), z.waits(1)}, 1, 5, 3);
+        C.answers("II shelf ahead of giving up", new int[] {z.fate(1), z.has(1), z.waits(1)}, 1, 5, 3);
     }
 
     private static void otherRules() {
@@ -444,25 +374,25 @@ public final class PromiseTest {
             + man("b", "honest", 1, 0, 600, 3) + man("c", "regular", 2, 1, 600, 5) + man("d", "honest", 3, 3, 600, 9);
         NextAtBar x = Checks.bar(house);
         // row: a at 0, c at 5, b at 10: waits 0, 9, 3, 17. asked: b at 5, c at 10: 0, 4, 8, 17.
-        answers("21 waits", new int[] {x.by(0, false, 3), x.by(1, false, 3), x.by(2, false, 3), x.by(3, false, 3), x.by(4, false, 3)},
+        C.answers("21 waits", new int[] {x.by(0, false, 3), x.by(1, false, 3), x.by(2, false, 3), x.by(3, false, 3), x.by(4, false, 3)},
             29, 29, 29, 29, 29);
-        answers("21 out of turn", new int[] {x.by(0, false, 4), x.by(1, false, 4), x.by(2, false, 4), x.by(3, false, 4), x.by(4, false, 4)},
+        C.answers("21 out of turn", new int[] {x.by(0, false, 4), x.by(1, false, 4), x.by(2, false, 4), x.by(3, false, 4), x.by(4, false, 4)},
             1, 1, 1, 0, 1);
         // roving by row: a, c, d at 10 (place 3), b at 15: b passed by c and d.
-        answers("21 roving", new int[] {x.by(0, true, 0), x.by(0, true, 4), x.by(0, true, 2), x.by(0, false, 0), x.by(2, true, 4)},
+        C.answers("21 roving", new int[] {x.by(0, true, 0), x.by(0, true, 4), x.by(0, true, 2), x.by(0, false, 0), x.by(2, true, 4)},
             4, 2, 0, 3, 3);
-        answers("21 wrong", new int[] {x.by(-1, true, 0), x.by(5, true, 0), x.by(0, true, 6), x.by(0, true, -1)}, NONE, NONE, NONE, NONE);
+        C.answers("21 wrong", new int[] {x.by(-1, true, 0), x.by(5, true, 0), x.by(0, true, 6), x.by(0, true, -1)}, NONE, NONE, NONE, NONE);
         C.due("21 trouble", x.trouble(), 1);
-        answers("22", new int[] {x.bestRule(true), x.bestRule(false), x.trouble()}, 3, 0, 0);
+        C.answers("22", new int[] {x.bestRule(true), x.bestRule(false), x.trouble()}, 3, 0, 0);
         // Only by eye do both have it: a's patience ends at 3, b waits.
         NextAtBar y = Checks.bar(plain(2, 20, 5, 5, staff("s", "row", 0, 0, 1)) + man("b", "honest", 0, 0, 600, 3)
             + man("a", "honest", 0, 1, 3, 9));
-        answers("22 most", new int[] {y.by(0, false, 0), y.by(2, false, 0), y.bestRule(false), y.bestRule(true)}, 1, 2, 2, 0);
+        C.answers("22 most", new int[] {y.by(0, false, 0), y.by(2, false, 0), y.bestRule(false), y.bestRule(true)}, 1, 2, 2, 0);
         // d stands where nobody of the staff serves.
         C.due("23", x.hand(), 1);
         NextAtBar z = Checks.bar(plain(5, 20, 5, 5, staff("s", "row", 0, 4, 4)) + man("a", "honest", 0, 0, 600, 0)
             + man("b", "honest", 18, 0, 600, 0));
-        answers("23", new int[] {z.hand(), z.trouble(), z.sum(0), z.size(3)}, 2, 0, 0, 1);
+        C.answers("23", new int[] {z.hand(), z.trouble(), z.sum(0), z.size(3)}, 2, 0, 0, 1);
         z.pass(16);
         // a from 16 to 23, so b waits still at the bell.
         C.due("23 from now on", z.hand(), 1);
@@ -484,11 +414,11 @@ public final class PromiseTest {
             + man("b", "honest", 1, 0, 600, 0) + man("c", "honest", 2, 0, 600, 0);
         NextAtBar x = Checks.bar(house + ";shelf c ready 19");
         // Without a: b at 1, c at 6: 12 less 4; without b: c at 5: 12 less 3.
-        answers("24", new int[] {x.beforehand(0), x.beforehand(1), x.trouble()}, 8, 9, 0);
-        answers("24 has a shelf", new int[] {x.beforehand(2), x.trouble()}, -1000, 5);
-        answers("24 none such", new int[] {x.beforehand(3), x.trouble(), x.beforehand(-1)}, -1000, 1, -1000);
+        C.answers("24", new int[] {x.beforehand(0), x.beforehand(1), x.trouble()}, 8, 9, 0);
+        C.answers("24 has a shelf", new int[] {x.beforehand(2), x.trouble()}, -1000, 5);
+        C.answers("24 none such", new int[] {x.beforehand(3), x.trouble(), x.beforehand(-1)}, -1000, 1, -1000);
         x.pass(1);
-        answers("24 has come", new int[] {x.beforehand(0), x.trouble(), x.beforehand(1), x.trouble()}, -1000, 5, 9, 0);
+        C.answers("24 has come", new int[] {x.beforehand(0), x.trouble(), x.beforehand(1), x.trouble()}, -1000, 5, 9, 0);
         C.due("24 as told still", x.told(1, 6), -2);
     }
 
@@ -498,10 +428,10 @@ public final class PromiseTest {
             + man("b", "honest", 1, 2, 600, 50);
         NextAtBar x = Checks.bar(house + man("c", "honest", 2, 0, 600, 0));
         // At 1: c at 5. At 2: behind b. So 1.
-        answers("25", new int[] {x.bestPlace(2), x.trouble(), x.bestPlace(0), x.bestPlace(1)}, 1, 0, 0, 0);
-        answers("25 wrong", new int[] {x.bestPlace(3), x.trouble()}, NONE, 1);
+        C.answers("25", new int[] {x.bestPlace(2), x.trouble(), x.bestPlace(0), x.bestPlace(1)}, 1, 0, 0, 0);
+        C.answers("25 wrong", new int[] {x.bestPlace(3), x.trouble()}, NONE, 1);
         x.pass(1);
-        answers("25 has come", new int[] {x.bestPlace(0), x.trouble()}, NONE, 5);
+        C.answers("25 has come", new int[] {x.bestPlace(0), x.trouble()}, NONE, 5);
         C.due("25 none", Checks.bar(house + man("c", "honest", 2, 0, 1, 0)).bestPlace(2), -2);
         // Only place 3 is served.
         C.due("25 the only one", Checks.bar(plain(4, 20, 5, 5, staff("s", "row", 0, 3, 3)) + man("a", "honest", 0, 0, 600, 0)).bestPlace(0), 3);
@@ -510,16 +440,16 @@ public final class PromiseTest {
     private static void bestManners() {
         String people = man("a", "honest", 0, 0, 600, 0) + man("b", "honest", 1, 0, 600, 0) + man("c", "honest", 2, 0, 600, 0);
         NextAtBar asked = Checks.bar(plain(1, 40, 5, 5, staff("s", "asked", 0, 0, 0)) + people);
-        answers("26 asked", new int[] {asked.bestManner(0), asked.bestManner(1), asked.bestManner(2), asked.trouble()}, 0, 0, 1, 0);
+        C.answers("26 asked", new int[] {asked.bestManner(0), asked.bestManner(1), asked.bestManner(2), asked.trouble()}, 0, 0, 1, 0);
         NextAtBar regular = Checks.bar(plain(1, 40, 5, 5, staff("s", "regular", 0, 0, 0)) + people);
-        answers("26 regular", new int[] {regular.bestManner(1), regular.bestManner(2), regular.bestManner(3), regular.trouble()}, 0, 3, NONE, 1);
+        C.answers("26 regular", new int[] {regular.bestManner(1), regular.bestManner(2), regular.bestManner(3), regular.trouble()}, 0, 3, NONE, 1);
         regular.pass(1);
-        answers("26 has come", new int[] {regular.bestManner(0), regular.trouble()}, NONE, 5);
+        C.answers("26 has come", new int[] {regular.bestManner(0), regular.trouble()}, NONE, 5);
         C.due("26 none", Checks.bar(plain(1, 40, 5, 5, staff("s", "asked", 0, 0, 0)) + man("a", "honest", 0, 0, 0, 0)).bestManner(0), -2);
         // Among liars by 20 who came at 1, a lie by 30 makes one who comes at 9 the first (he says -21, they -19).
         NextAtBar liars = Checks.bar(plain(1, 90, 9, 9, staff("s", "asked", 0, 0, 0)) + man("a", "honest", 0, 0, 600, 0)
             + man("b", "liar 20", 1, 0, 600, 0) + man("c", "polite 9", 9, 0, 600, 0) + man("d", "liar 20", 1, 0, 600, 0));
-        answers("26 by thirty", new int[] {liars.bestManner(2), liars.person(2, 3), liars.told(2, 0)}, 1, 18, 2);
+        C.answers("26 by thirty", new int[] {liars.bestManner(2), liars.person(2, 3), liars.told(2, 0)}, 1, 18, 2);
         // By row no manner helps, so honest is the first of like ones.
         NextAtBar row = Checks.bar(plain(1, 40, 5, 5, staff("s", "row", 0, 0, 0)) + people);
         C.due("26 first of like ones", row.bestManner(2), 0);
@@ -529,19 +459,19 @@ public final class PromiseTest {
         // a at 0, b at 1, c at 2 (all at 0), takes 5: cut at 0 leaves b, c to t: waits 5; at 1 likewise a, b: 5; at 2 all: 15.
         String three = man("a", "honest", 0, 0, 600, 0) + man("b", "honest", 0, 1, 600, 0) + man("c", "honest", 0, 2, 600, 0);
         NextAtBar x = Checks.bar(plain(4, 30, 5, 5, staff("s", "row", 0, 3, 3) + staff("t", "row", 0, 3, 3)) + three);
-        answers("27", new int[] {x.cut(), x.trouble(), x.sum(3), x.cutWaits(), x.trouble()}, 0, 0, 90, 5, 0);
+        C.answers("27", new int[] {x.cut(), x.trouble(), x.sum(3), x.cutWaits(), x.trouble()}, 0, 0, 90, 5, 0);
         NextAtBar y = Checks.bar(plain(4, 30, 5, 5, staff("s", "row", 0, 3, 3) + staff("t", "row", 0, 3, 3)) + three
             + man("d", "honest", 0, 2, 600, 0));
-        answers("27 later", new int[] {y.cut(), y.cutWaits()}, 1, 10);
+        C.answers("27 later", new int[] {y.cut(), y.cutWaits()}, 1, 10);
         // The third one stays as he is, and takes c, while t takes b.
         NextAtBar z = Checks.bar(plain(3, 30, 5, 5, staff("s", "row", 0, 0, 0) + staff("t", "row", 0, 0, 0) + staff("u", "row", 2, 2, 2)) + three);
-        answers("27 three", new int[] {z.cut(), z.cutWaits()}, 0, 0);
+        C.answers("27 three", new int[] {z.cut(), z.cutWaits()}, 0, 0);
         NextAtBar alone = Checks.bar(plain(4, 30, 5, 5, staff("s", "row", 0, 3, 3)) + three);
-        answers("27 alone", new int[] {alone.cut(), alone.trouble(), alone.cutWaits(), alone.trouble()}, NONE, 5, NONE, 5);
+        C.answers("27 alone", new int[] {alone.cut(), alone.trouble(), alone.cutWaits(), alone.trouble()}, NONE, 5, NONE, 5);
         NextAtBar narrow = Checks.bar(plain(1, 30, 5, 5, staff("s", "row", 0, 0, 0) + staff("t", "row", 0, 0, 0)) + man("a", "honest", 0, 0, 9, 0));
-        answers("27 one place", new int[] {narrow.cut(), narrow.trouble(), narrow.cutWaits(), narrow.trouble()}, NONE, 5, NONE, 5);
+        C.answers("27 one place", new int[] {narrow.cut(), narrow.trouble(), narrow.cutWaits(), narrow.trouble()}, NONE, 5, NONE, 5);
         NextAtBar two = Checks.bar(plain(2, 30, 5, 5, staff("s", "row", 0, 0, 0) + staff("t", "row", 0, 0, 0)) + man("a", "honest", 0, 1, 99, 0));
-        answers("27 two places", new int[] {two.cut(), two.cutWaits()}, 0, 0);
+        C.answers("27 two places", new int[] {two.cut(), two.cutWaits()}, 0, 0);
     }
 
     private static void leastLooks() {
@@ -549,10 +479,10 @@ public final class PromiseTest {
         String house = plain(1, 40, 5, 5, staff("s", "eye", 0, 0, 0)) + man("a", "honest", 0, 0, 600, 0)
             + man("b", "honest", 1, 0, 600, 50) + man("c", "honest", 1, 0, 600, 70);
         NextAtBar x = Checks.bar(house + man("d", "honest", 2, 0, 600, 0));
-        answers("29", new int[] {x.leastLook(3), x.leastLook(2), x.leastLook(1), x.leastLook(0), x.trouble()}, 71, 51, 70, 0, 0);
-        answers("29 wrong", new int[] {x.leastLook(4), x.trouble()}, NONE, 1);
+        C.answers("29", new int[] {x.leastLook(3), x.leastLook(2), x.leastLook(1), x.leastLook(0), x.trouble()}, 71, 51, 70, 0, 0);
+        C.answers("29 wrong", new int[] {x.leastLook(4), x.trouble()}, NONE, 1);
         x.pass(1);
-        answers("29 has come", new int[] {x.leastLook(0), x.trouble()}, NONE, 5);
+        C.answers("29 has come", new int[] {x.leastLook(0), x.trouble()}, NONE, 5);
         C.due("29 none", Checks.bar(house + man("d", "honest", 2, 0, 3, 0)).leastLook(3), -2);
         C.due("29 patience", Checks.bar(house + man("d", "honest", 2, 0, 9, 0)).leastLook(3), 71);
         C.due("29 by ninety-nine", Checks.bar(plain(1, 40, 5, 5, staff("s", "eye", 0, 0, 0)) + man("a", "honest", 0, 0, 600, 0)
@@ -567,10 +497,10 @@ public final class PromiseTest {
             + man("e", "honest", 9, 0, 600, 0));
         x.pass(4);
         // b says 1, c 3, d 3; b is next at 5, d (who came at 2) at 10, c at 15, e at 20.
-        answers("30", new int[] {x.letCosts(1, 2), x.letCosts(1, 3), x.letCosts(3, 2), x.letCosts(2, 3), x.trouble()}, 10, 10, 5, 0, 0);
-        answers("30 wrong", new int[] {x.letCosts(1, 1), x.trouble(), x.letCosts(1, 5), x.trouble(), x.letCosts(-1, 1)},
+        C.answers("30", new int[] {x.letCosts(1, 2), x.letCosts(1, 3), x.letCosts(3, 2), x.letCosts(2, 3), x.trouble()}, 10, 10, 5, 0, 0);
+        C.answers("30 wrong", new int[] {x.letCosts(1, 1), x.trouble(), x.letCosts(1, 5), x.trouble(), x.letCosts(-1, 1)},
             -1000, 1, -1000, 1, -1000);
-        answers("30 not so", new int[] {x.letCosts(2, 1), x.trouble(), x.letCosts(1, 0), x.trouble(), x.letCosts(4, 1), x.trouble()},
+        C.answers("30 not so", new int[] {x.letCosts(2, 1), x.trouble(), x.letCosts(1, 0), x.trouble(), x.letCosts(4, 1), x.trouble()},
             -1000, 5, -1000, 5, -1000, 5);
         C.due("43 unlike", x.lets(1, 1), false);
         C.due("43 trouble", x.trouble(), 1);
@@ -582,32 +512,32 @@ public final class PromiseTest {
         C.due("43 trouble of that", x.trouble(), 5);
         C.due("43 refused ones are no acts", x.size(8), 1);
         C.due("43", x.lets(1, 2), true);
-        answers("43 says", new int[] {x.person(1, 3), x.trouble(), x.size(8), x.next(0), x.person(2, 3)}, 4, 0, 2, 3, 3);
+        C.answers("43 says", new int[] {x.person(1, 3), x.trouble(), x.size(8), x.next(0), x.person(2, 3)}, 4, 0, 2, 3, 3);
         C.due("43 once more", x.lets(1, 2), false);
         C.due("43 the other way", x.lets(2, 1), true);
-        answers("43 order", new int[] {x.served(1), x.served(2), x.served(3), x.served(4), x.person(2, 3)}, 3, 1, 2, 4, 5);
+        C.answers("43 order", new int[] {x.served(1), x.served(2), x.served(3), x.served(4), x.person(2, 3)}, 3, 1, 2, 4, 5);
         C.due("43 of like ones", Checks.bar(EVENING).lets(0, 1), false);
     }
 
     private static void bells() {
         NextAtBar x = Checks.bar(EVENING);
-        answers("31 at 0", new int[] {x.bell(0, 0), x.bell(0, 2), x.bell(0, 3)}, 1, 0, 0);
+        C.answers("31 at 0", new int[] {x.bell(0, 0), x.bell(0, 2), x.bell(0, 3)}, 1, 0, 0);
         // At 4: ann is begun with; bob waits 2, cat 3, dan 1, eve 2.
-        answers("31 at 4", new int[] {x.bell(4, 0), x.bell(4, 1), x.bell(4, 2), x.bell(4, 3), x.bell(4, 5)}, 1, 0, 4, 8, 6);
-        answers("31 at 1", new int[] {x.bell(1, 0), x.bell(1, 2), x.bell(1, 3)}, 1, 1, 0);
-        answers("31 at 900", new int[] {x.bell(900, 0), x.bell(900, 3), x.trouble()}, 4, 28, 0);
-        answers("31 wrong", new int[] {x.bell(901, 0), x.trouble(), x.bell(-1, 0), x.trouble(), x.bell(901, 6), x.trouble()},
+        C.answers("31 at 4", new int[] {x.bell(4, 0), x.bell(4, 1), x.bell(4, 2), x.bell(4, 3), x.bell(4, 5)}, 1, 0, 4, 8, 6);
+        C.answers("31 at 1", new int[] {x.bell(1, 0), x.bell(1, 2), x.bell(1, 3)}, 1, 1, 0);
+        C.answers("31 at 900", new int[] {x.bell(900, 0), x.bell(900, 3), x.trouble()}, 4, 28, 0);
+        C.answers("31 wrong", new int[] {x.bell(901, 0), x.trouble(), x.bell(-1, 0), x.trouble(), x.bell(901, 6), x.trouble()},
             NONE, 2, NONE, 2, NONE, 1);
-        answers("32", new int[] {x.waitingAt(0), x.waitingAt(1), x.waitingAt(2), x.waitingAt(3), x.waitingAt(5), x.waitingAt(8),
+        C.answers("32", new int[] {x.waitingAt(0), x.waitingAt(1), x.waitingAt(2), x.waitingAt(3), x.waitingAt(5), x.waitingAt(8),
             x.waitingAt(9), x.waitingAt(13), x.waitingAt(40)}, 0, 1, 3, 4, 3, 3, 1, 0, 0);
-        answers("32 wrong", new int[] {x.waitingAt(41), x.trouble(), x.waitingAt(-1), x.trouble()}, NONE, 2, NONE, 2);
+        C.answers("32 wrong", new int[] {x.waitingAt(41), x.trouble(), x.waitingAt(-1), x.trouble()}, NONE, 2, NONE, 2);
         x.pass(5);
-        answers("31, 32 now", new int[] {x.bell(4, 0), x.trouble(), x.bell(5, 0), x.trouble(), x.waitingAt(4), x.trouble(), x.waitingAt(5)},
+        C.answers("31, 32 now", new int[] {x.bell(4, 0), x.trouble(), x.bell(5, 0), x.trouble(), x.waitingAt(4), x.trouble(), x.waitingAt(5)},
             NONE, 2, 2, 0, NONE, 2, 3);
         NextAtBar y = Checks.bar(plain(2, 10, 5, 5, staff("s", "row", 0, 0, 0)) + man("a", "honest", 4, 1, 600, 0));
-        answers("31 longer", new int[] {y.bell(900, 3), y.bell(10, 3), y.bell(3, 3), y.bell(3, 2), y.bell(700, 1)}, 600, 6, 0, 0, 1);
+        C.answers("31 longer", new int[] {y.bell(900, 3), y.bell(10, 3), y.bell(3, 3), y.bell(3, 2), y.bell(700, 1)}, 600, 6, 0, 0, 1);
         y.pass(11);
-        answers("31 behind the bell", new int[] {y.bell(10, 2), y.trouble(), y.bell(11, 2), y.bell(11, 3), y.waitingAt(10), y.trouble()},
+        C.answers("31 behind the bell", new int[] {y.bell(10, 2), y.trouble(), y.bell(11, 2), y.bell(11, 3), y.waitingAt(10), y.trouble()},
             NONE, 2, 1, 7, NONE, 2);
     }
 
@@ -616,26 +546,26 @@ public final class PromiseTest {
         String people = man("a", "honest", 0, 0, 600, 0) + man("b", "polite 9", 1, 0, 600, 0) + man("c", "regular", 2, 0, 600, 0);
         NextAtBar x = Checks.bar(plain(1, 40, 5, 5, staff("s", "asked", 0, 0, 0)) + people);
         // None lies: waits 0, 4, 8. c lies: 0, 9, 3. b or both: 0, 4, 8.
-        answers("33", new int[] {x.honesty(0, true), x.honesty(0, false), x.honesty(4, false), x.honesty(4, true), x.honesty(6, false),
+        C.answers("33", new int[] {x.honesty(0, true), x.honesty(0, false), x.honesty(4, false), x.honesty(4, true), x.honesty(6, false),
             x.honesty(2, false), x.honesty(2, true), x.honesty(7, false), x.trouble()}, 12, 0, 3, 9, 12, 4, 8, 12, 0);
-        answers("33 wrong", new int[] {x.honesty(8, true), x.trouble(), x.honesty(-1, true), x.trouble()}, NONE, 2, NONE, 2);
+        C.answers("33 wrong", new int[] {x.honesty(8, true), x.trouble(), x.honesty(-1, true), x.trouble()}, NONE, 2, NONE, 2);
         // At rest where b lies: else one of b, c would gain by lying.
-        answers("34", new int[] {x.rest(0), x.rest(2), x.rest(4), x.rest(6), x.rest(1), x.rest(7), x.trouble()}, 0, 1, 0, 1, 0, 1, 0);
-        answers("34 wrong", new int[] {x.rest(8), x.trouble(), x.rest(-1), x.trouble()}, NONE, 2, NONE, 2);
+        C.answers("34", new int[] {x.rest(0), x.rest(2), x.rest(4), x.rest(6), x.rest(1), x.rest(7), x.trouble()}, 0, 1, 0, 1, 0, 1, 0);
+        C.answers("34 wrong", new int[] {x.rest(8), x.trouble(), x.rest(-1), x.trouble()}, NONE, 2, NONE, 2);
         C.due("35", x.rests(), 4);
         x.pass(6);
         x.leaves(2);
-        answers("33 to 35 from second 0 on", new int[] {x.honesty(4, true), x.rest(4), x.rests()}, 9, 0, 4);
+        C.answers("33 to 35 from second 0 on", new int[] {x.honesty(4, true), x.rest(4), x.rests()}, 9, 0, 4);
         // Regulars, too, are honest.
         NextAtBar regular = Checks.bar(plain(1, 40, 5, 5, staff("s", "regular", 0, 0, 0)) + people);
-        answers("33 regulars", new int[] {regular.sum(3), regular.waits(2), regular.honesty(4, false), regular.rests()}, 12, 3, 8, 8);
+        C.answers("33 regulars", new int[] {regular.sum(3), regular.waits(2), regular.honesty(4, false), regular.rests()}, 12, 3, 8, 8);
         String one = "house long 5 bell 4;drink a takes 1 then 1 costs 1;staff b row at 0 from 0 to 0 step 0 hands 1";
         String eight = one + times(8, ";person p", " honest comes 0 at 0 patience 0 look 0 wants a 1");
-        answers("35 too many", new int[] {Checks.bar(eight).rests(), Checks.bar(one + times(7, ";person p",
+        C.answers("35 too many", new int[] {Checks.bar(eight).rests(), Checks.bar(one + times(7, ";person p",
             " honest comes 0 at 0 patience 0 look 0 wants a 1")).rests()}, NONE, 128);
         NextAtBar y = Checks.bar(eight);
         y.rests();
-        answers("35 trouble", new int[] {y.trouble(), y.rest(255), y.trouble()}, 3, 1, 0);
+        C.answers("35 trouble", new int[] {y.trouble(), y.rest(255), y.trouble()}, 3, 1, 0);
     }
 
     private static void rows() {
@@ -644,60 +574,60 @@ public final class PromiseTest {
             + ";staff s row at 0 from 1 to 1 step 9 hands 2;person a honest comes 0 at 0 patience 600 look 0 wants ale 1"
             + ";person b honest comes 0 at 0 patience 600 look 0 wants gin 1;person c honest comes 0 at 0 patience 600 look 0 wants ale 1";
         NextAtBar x = Checks.bar(house);
-        answers("36 nobody", new int[] {x.row(0, 0), x.trouble(), x.rowSum(0), x.trouble()}, NONE, 1, 0, 0);
+        C.answers("36 nobody", new int[] {x.row(0, 0), x.trouble(), x.rowSum(0), x.trouble()}, NONE, 1, 0, 0);
         x.pass(1);
         // b 4, a 13, c 14: 31. (a 9, c 10, b 14: 33.)
-        answers("36", new int[] {x.row(0, 0), x.row(0, 1), x.row(0, 2), x.trouble(), x.row(0, 3), x.trouble(), x.row(0, -1), x.row(1, 0)},
+        C.answers("36", new int[] {x.row(0, 0), x.row(0, 1), x.row(0, 2), x.trouble(), x.row(0, 3), x.trouble(), x.row(0, -1), x.row(1, 0)},
             1, 0, 2, 0, NONE, 1, NONE, NONE);
-        answers("37", new int[] {x.rowSum(0), x.trouble(), x.rowSum(1), x.trouble()}, 31, 0, NONE, 1);
+        C.answers("37", new int[] {x.rowSum(0), x.trouble(), x.rowSum(1), x.trouble()}, 31, 0, NONE, 1);
         // Behind an order of ale that he began with: a 1, c 2, b 6: 9.
         NextAtBar y = Checks.bar(house + ";person d honest comes 0 at 1 patience 600 look 0 wants ale 1");
         y.pass(1);
-        answers("36 behind ale", new int[] {y.row(0, 0), y.row(0, 1), y.row(0, 2), y.rowSum(0)}, 0, 2, 1, 9);
+        C.answers("36 behind ale", new int[] {y.row(0, 0), y.row(0, 1), y.row(0, 2), y.rowSum(0)}, 0, 2, 1, 9);
         String one = "house long 5 bell 4;drink a takes 1 then 1 costs 1;staff b row at 0 from 1 to 1 step 0 hands 1";
         NextAtBar eight = Checks.bar(one + times(8, ";person p", " honest comes 0 at 0 patience 9 look 0 wants a 1"));
         eight.pass(1);
-        answers("36 too many", new int[] {eight.row(0, 0), eight.trouble(), eight.row(0, 8), eight.trouble(), eight.rowSum(0), eight.trouble()},
+        C.answers("36 too many", new int[] {eight.row(0, 0), eight.trouble(), eight.row(0, 8), eight.trouble(), eight.rowSum(0), eight.trouble()},
             NONE, 3, NONE, 1, NONE, 3);
         eight.leaves(3);
-        answers("36 seven", new int[] {eight.row(0, 0), eight.row(0, 3), eight.row(0, 6), eight.rowSum(0), eight.trouble()}, 0, 4, 7, 28, 0);
+        C.answers("36 seven", new int[] {eight.row(0, 0), eight.row(0, 3), eight.row(0, 6), eight.rowSum(0), eight.trouble()}, 0, 4, 7, 28, 0);
     }
 
     private static void tellings() {
         String five = times(5, ";person p", " honest comes 1 at 0 patience 0 look 0 wants x 1");
         String house = plain(1, 9, 1, 1, staff("s", "row", 0, 0, 0)) + five;
         NextAtBar none = Checks.bar(house);
-        answers("38 none", new int[] {none.liars(), none.trouble(), none.surely(0, 1), none.so()}, 0, 0, 0, 0);
+        C.answers("38 none", new int[] {none.liars(), none.trouble(), none.surely(0, 1), none.so()}, 0, 0, 0, 0);
         // pb contradicts pa and pc, pd contradicts himself.
         NextAtBar x = Checks.bar(house + ";says pa pa before pb;says pb pb before pa;says pc pa before pb;says pb pe before pa"
             + ";says pd pa before pe;says pd pe before pa;says pc pb before pd");
-        answers("38", new int[] {x.liars(), x.trouble()}, 10, 0);
-        answers("39", new int[] {x.surely(0, 1), x.surely(1, 3), x.surely(0, 3), x.surely(3, 0), x.surely(4, 0), x.surely(0, 4), x.trouble()},
+        C.answers("38", new int[] {x.liars(), x.trouble()}, 10, 0);
+        C.answers("39", new int[] {x.surely(0, 1), x.surely(1, 3), x.surely(0, 3), x.surely(3, 0), x.surely(4, 0), x.surely(0, 4), x.trouble()},
             1, 1, 1, 0, 0, 0, 0);
-        answers("39 wrong", new int[] {x.surely(0, 0), x.trouble(), x.surely(5, 0), x.trouble(), x.surely(0, -1)}, NONE, 1, NONE, 1, NONE);
+        C.answers("39 wrong", new int[] {x.surely(0, 0), x.trouble(), x.surely(5, 0), x.trouble(), x.surely(0, -1)}, NONE, 1, NONE, 1, NONE);
         // All came at once, so by numbers: a<b twice, a<e, b<d are so.
-        answers("40", new int[] {x.so(), x.trouble()}, 4, 0);
+        C.answers("40", new int[] {x.so(), x.trouble()}, 4, 0);
         // Of like ones the least bits: pb and pd against one another.
         C.due("38 least bits", Checks.bar(house + ";says pd pa before pb;says pb pb before pa").liars(), 2);
         C.due("38 fewest", Checks.bar(house + ";says pa pa before pb;says pb pa before pc;says pe pb before pa;says pe pc before pa").liars(), 16);
         NextAtBar later = Checks.bar(plain(1, 9, 1, 1, staff("s", "row", 0, 0, 0)) + man("a", "liar 9", 5, 0, 0, 0)
             + man("b", "honest", 3, 0, 0, 0) + ";says a a before b;says a b before a;says b b before a");
-        answers("40 by seconds", new int[] {later.so(), later.liars(), later.surely(1, 0), later.surely(0, 1)}, 2, 1, 1, 0);
+        C.answers("40 by seconds", new int[] {later.so(), later.liars(), later.surely(1, 0), later.surely(0, 1)}, 2, 1, 1, 0);
     }
 
     private static void passing() {
         NextAtBar x = Checks.bar("house long 1 bell 600;drink x takes 1 then 1 costs 1" + staff("s", "row", 0, 0, 0) + man("a", "honest", 600, 0, 9, 0));
-        answers("41", new int[] {x.pass(0), x.trouble(), x.pass(201), x.trouble(), x.pass(-1), x.size(8)}, NONE, 2, NONE, 2, NONE, 0);
-        answers("41 two hundred", new int[] {x.pass(200), x.trouble(), x.pass(200), x.pass(200), x.size(7), x.person(0, 0)}, 200, 0, 400, 600, 600, 0);
-        answers("41 beyond", new int[] {x.pass(2), x.trouble(), x.pass(201), x.trouble(), x.pass(1), x.trouble(), x.person(0, 0)}, NONE, 3, NONE, 2, 601, 0, 3);
-        answers("41 behind the bell", new int[] {x.pass(1), x.trouble(), x.size(7), x.has(0), x.fate(0)}, NONE, 3, 601, 601, 0);
+        C.answers("41", new int[] {x.pass(0), x.trouble(), x.pass(201), x.trouble(), x.pass(-1), x.size(8)}, NONE, 2, NONE, 2, NONE, 0);
+        C.answers("41 two hundred", new int[] {x.pass(200), x.trouble(), x.pass(200), x.pass(200), x.size(7), x.person(0, 0)}, 200, 0, 400, 600, 600, 0);
+        C.answers("41 beyond", new int[] {x.pass(2), x.trouble(), x.pass(201), x.trouble(), x.pass(1), x.trouble(), x.person(0, 0)}, NONE, 3, NONE, 2, 601, 0, 3);
+        C.answers("41 behind the bell", new int[] {x.pass(1), x.trouble(), x.size(7), x.has(0), x.fate(0)}, NONE, 3, 601, 601, 0);
     }
 
     private static void acts() {
         NextAtBar x = Checks.bar(EVENING);
         x.pass(4);
         C.due("42", x.moves(1, 4), true);
-        answers("42 place", new int[] {x.trouble(), x.person(1, 1), x.elbows(4), x.elbows(0), x.told(1, 3), x.has(1)}, 0, 4, 2, 0, 0, 13);
+        C.answers("42 place", new int[] {x.trouble(), x.person(1, 1), x.elbows(4), x.elbows(0), x.told(1, 3), x.has(1)}, 0, 4, 2, 0, 0, 13);
         C.due("42 there already", x.moves(1, 4), false);
         C.due("42 trouble", x.trouble(), 5);
         C.due("42 served", x.moves(0, 0), false);
@@ -706,21 +636,21 @@ public final class PromiseTest {
         C.due("42 trouble of that", x.trouble(), 1);
         C.due("42 nobody", x.moves(5, 0) || x.moves(-1, 0), false);
         C.due("42 trouble of him", x.trouble(), 1);
-        answers("44", new int[] {x.calls(1), x.trouble(), x.person(1, 2), x.told(1, 5), x.calls(1)}, 25, 0, 25, 20, 30);
-        answers("44 at most", new int[] {x.calls(4), x.calls(4), x.size(8)}, 99, 99, 6);
-        answers("44 wrong", new int[] {x.calls(5), x.trouble(), x.calls(-1), x.trouble(), x.calls(0), x.trouble(), x.size(8)}, NONE, 1, NONE, 1, NONE, 5, 6);
+        C.answers("44", new int[] {x.calls(1), x.trouble(), x.person(1, 2), x.told(1, 5), x.calls(1)}, 25, 0, 25, 20, 30);
+        C.answers("44 at most", new int[] {x.calls(4), x.calls(4), x.size(8)}, 99, 99, 6);
+        C.answers("44 wrong", new int[] {x.calls(5), x.trouble(), x.calls(-1), x.trouble(), x.calls(0), x.trouble(), x.size(8)}, NONE, 1, NONE, 1, NONE, 5, 6);
         C.due("45", x.leaves(3), true);
-        answers("45 left", new int[] {x.trouble(), x.person(3, 0), x.waiting(), x.fate(3)}, 0, 5, 3, 4);
+        C.answers("45 left", new int[] {x.trouble(), x.person(3, 0), x.waiting(), x.fate(3)}, 0, 5, 3, 4);
         C.due("45 left already", x.leaves(3), false);
         C.due("45 trouble", x.trouble(), 5);
         C.due("45 nobody", x.leaves(5) || x.leaves(-1), false);
         C.due("45 trouble of him", x.trouble(), 1);
         C.due("46", x.undo(), true);
-        answers("46 back again", new int[] {x.trouble(), x.person(3, 0), x.waiting(), x.size(8)}, 0, 1, 4, 6);
+        C.answers("46 back again", new int[] {x.trouble(), x.person(3, 0), x.waiting(), x.size(8)}, 0, 1, 4, 6);
         C.due("46 calls", x.undo() && x.undo() && x.undo() && x.undo(), true);
-        answers("46 calls undone", new int[] {x.person(4, 2), x.person(1, 2), x.person(1, 1)}, 98, 20, 4);
+        C.answers("46 calls undone", new int[] {x.person(4, 2), x.person(1, 2), x.person(1, 1)}, 98, 20, 4);
         C.due("46 move and pass", x.undo() && x.undo(), true);
-        answers("46 at first again", new int[] {x.size(7), x.size(8), x.person(1, 1), x.person(0, 0)}, 0, 0, 0, 0);
+        C.answers("46 at first again", new int[] {x.size(7), x.size(8), x.person(1, 1), x.person(0, 0)}, 0, 0, 0, 0);
         C.due("46 nothing", x.undo(), false);
         C.due("46 trouble", x.trouble(), 6);
         for (int i = 0; i < 14; i++) {
@@ -738,36 +668,36 @@ public final class PromiseTest {
         NextAtBar x = Checks.bar(EVENING);
         C.due("47", x.image(), 0);
         x.pass(4);
-        answers("47 second", new int[] {x.image(), x.trouble(), x.size(9), x.size(8)}, 1, 0, 2, 1);
+        C.answers("47 second", new int[] {x.image(), x.trouble(), x.size(9), x.size(8)}, 1, 0, 2, 1);
         x.leaves(1);
         x.calls(2);
-        answers("47 third", new int[] {x.image(), x.image(), x.trouble(), x.size(9)}, 2, NONE, 3, 3);
+        C.answers("47 third", new int[] {x.image(), x.image(), x.trouble(), x.size(9)}, 2, NONE, 3, 3);
         C.due("48 none such", x.back(3) || x.back(-1), false);
         C.due("48 trouble", x.trouble(), 1);
         C.due("48 undo stays, if refused", x.size(8), 3);
         C.due("48", x.back(1), true);
-        answers("48 as then", new int[] {x.trouble(), x.person(1, 0), x.person(2, 2), x.size(7), x.size(8), x.size(9)}, 0, 1, 30, 4, 0, 3);
+        C.answers("48 as then", new int[] {x.trouble(), x.person(1, 0), x.person(2, 2), x.size(7), x.size(8), x.size(9)}, 0, 1, 30, 4, 0, 3);
         C.due("48 nothing to undo", x.undo(), false);
         x.pass(9);
         x.leaves(2);
         C.due("48 first", x.back(0), true);
-        answers("48 all as at first", new int[] {x.size(7), x.person(0, 0), x.sum(3), x.served(2)}, 0, 0, 28, 2);
+        C.answers("48 all as at first", new int[] {x.size(7), x.person(0, 0), x.sum(3), x.served(2)}, 0, 0, 28, 2);
         C.due("48 third", x.back(2), true);
-        answers("48 as at third", new int[] {x.size(7), x.person(1, 0), x.person(2, 2), x.staff(0, 2), x.sum(0)}, 4, 5, 35, 5, 3);
+        C.answers("48 as at third", new int[] {x.size(7), x.person(1, 0), x.person(2, 2), x.staff(0, 2), x.sum(0)}, 4, 5, 35, 5, 3);
     }
 
     private static void whatIsTold() {
         NextAtBar x = Checks.bar(EVENING);
-        answers("49 manners", new int[] {x.told(0, 0), x.told(1, 0), x.told(2, 0), x.told(3, 0)}, 0, 1, 2, 3);
-        answers("49 by", new int[] {x.told(0, 1), x.told(1, 1), x.told(2, 1), x.told(3, 1)}, 0, 9, 3, 0);
-        answers("49 dan", new int[] {x.told(3, 2), x.told(3, 3), x.told(3, 4), x.told(3, 5), x.told(3, 6)}, 3, 2, 6, 40, -2);
-        answers("49 eve", new int[] {x.told(4, 2), x.told(4, 3), x.told(4, 4), x.told(4, 5), x.told(4, 6), x.trouble()}, 2, 1, 50, 98, 9, 0);
-        answers("49 wrong", new int[] {x.told(5, 0), x.told(-1, 0), x.told(0, 7), x.told(0, -1), x.trouble()}, NONE, NONE, NONE, NONE, 1);
-        answers("50", new int[] {x.wants(0, 0), x.wants(0, 1), x.wants(2, 0), x.wants(2, 1), x.trouble()}, 2, 0, 1, 2, 0);
-        answers("50 wrong", new int[] {x.wants(0, 2), x.wants(5, 0), x.wants(-1, 0), x.wants(0, -1), x.trouble()}, NONE, NONE, NONE, NONE, 1);
+        C.answers("49 manners", new int[] {x.told(0, 0), x.told(1, 0), x.told(2, 0), x.told(3, 0)}, 0, 1, 2, 3);
+        C.answers("49 by", new int[] {x.told(0, 1), x.told(1, 1), x.told(2, 1), x.told(3, 1)}, 0, 9, 3, 0);
+        C.answers("49 dan", new int[] {x.told(3, 2), x.told(3, 3), x.told(3, 4), x.told(3, 5), x.told(3, 6)}, 3, 2, 6, 40, -2);
+        C.answers("49 eve", new int[] {x.told(4, 2), x.told(4, 3), x.told(4, 4), x.told(4, 5), x.told(4, 6), x.trouble()}, 2, 1, 50, 98, 9, 0);
+        C.answers("49 wrong", new int[] {x.told(5, 0), x.told(-1, 0), x.told(0, 7), x.told(0, -1), x.trouble()}, NONE, NONE, NONE, NONE, 1);
+        C.answers("50", new int[] {x.wants(0, 0), x.wants(0, 1), x.wants(2, 0), x.wants(2, 1), x.trouble()}, 2, 0, 1, 2, 0);
+        C.answers("50 wrong", new int[] {x.wants(0, 2), x.wants(5, 0), x.wants(-1, 0), x.wants(0, -1), x.trouble()}, NONE, NONE, NONE, NONE, 1);
         C.due("51 nobody", throwsNone(x, 0), true);
         C.due("51 leaves trouble alone", x.trouble(), 1);
-        answers("52", new int[] {x.size(0), x.size(1), x.size(2), x.size(3), x.size(4), x.size(5), x.size(6), x.size(7), x.size(8),
+        C.answers("52", new int[] {x.size(0), x.size(1), x.size(2), x.size(3), x.size(4), x.size(5), x.size(6), x.size(7), x.size(8),
             x.size(9), x.size(10), x.size(11), x.size(-1)}, 5, 40, 2, 1, 5, 1, 3, 0, 0, 0, 0, NONE, NONE);
         C.due("52 leaves trouble alone", x.trouble(), 1);
         x.fault();
@@ -792,7 +722,7 @@ public final class PromiseTest {
             for (int i = 0; i < none.length; i++) {
                 C.due("far out " + far + ", call " + i, none[i], NONE);
             }
-            answers("far out", new int[] {x.beforehand(far), x.letCosts(far, 1), x.letCosts(1, far)}, -1000, -1000, -1000);
+            C.answers("far out", new int[] {x.beforehand(far), x.letCosts(far, 1), x.letCosts(1, far)}, -1000, -1000, -1000);
             C.due("far out acts", x.moves(far, 0) || x.moves(1, far) || x.lets(far, 1) || x.lets(1, far) || x.leaves(far) || x.back(far), false);
             C.due("far out led", throwsNone(x, far), true);
             C.due("far out no act", x.size(8), 1);
